@@ -974,7 +974,9 @@ public final class CustomsDesk {
             int least = leastRate(goods);
             for (int at = 0; at < preferences.count(); at++) {
                 int rate = preferences.get(at, PREFERENCE_RATE);
-                if (rate < least && isFor(at, goods) && !meetsNeed(at, goods)) {
+                if (rate < least && preferences.get(at, PREFERENCE_COUNTRY) == goods.country
+                        && isUnder(goods.heading, preferences.get(at, PREFERENCE_HEADING))
+                        && !meetsNeed(at, goods)) {
                     best = at;
                     least = rate;
                 }
@@ -1009,16 +1011,13 @@ public final class CustomsDesk {
         private int preferredRate(Goods goods) {
             int least = ABOVE_ALL_RATES;
             for (int at = 0; at < preferences.count(); at++) {
-                if (isFor(at, goods) && meetsNeed(at, goods)) {
+                if (preferences.get(at, PREFERENCE_COUNTRY) == goods.country
+                        && isUnder(goods.heading, preferences.get(at, PREFERENCE_HEADING))
+                        && meetsNeed(at, goods)) {
                     least = Math.min(least, preferences.get(at, PREFERENCE_RATE));
                 }
             }
             return least;
-        }
-
-        private boolean isFor(int preference, Goods goods) {
-            return preferences.get(preference, PREFERENCE_COUNTRY) == goods.country
-                    && isUnder(goods.heading, preferences.get(preference, PREFERENCE_HEADING));
         }
 
         private boolean meetsNeed(int preference, Goods goods) {
