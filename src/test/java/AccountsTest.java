@@ -77,6 +77,9 @@ public final class AccountsTest {
         one.pass(1);
         Check.due("30: nothing given back", 0.0, one::givenBack);
         Check.due("31: one declaration", 3.0f / 10.0f, one::meanRate);
+        Check.due("27: kept", 3, () -> one.kept(2));
+        Check.due("28: kept again", 3, () -> one.keptAgain(2));
+        Check.due("29: kept under", 3, () -> one.keptUnder(0));
         one.refund(0);
         Check.due("30: all given back", 1.0, one::givenBack);
         Check.due("31: refunded ones count", 0.0f, one::meanRate);

@@ -98,6 +98,12 @@ public final class DaysTest {
         Check.due("22: first part at rate 0", 0, () -> desk.declaration(2, 9));
         Check.due("22: all in the quota", 0, () -> desk.declaration(2, 10));
         Check.due("22: the rate as it was when the day ended", 7, () -> desk.declaration(2, 12));
+        desk.quota(0, -1, 1, 5, 9);
+        Check.declared(desk, 1, 0, 1000, 1, 0, 2);
+        desk.pass(1);
+        Check.due("22: one unit", 1, () -> desk.declaration(3, 8));
+        Check.due("22: first part of one unit", 5, () -> desk.declaration(3, 9));
+        Check.due("22: second part of one unit", 0, () -> desk.declaration(3, 10));
     }
 
     private static void severalQuotas() {
@@ -161,12 +167,15 @@ public final class DaysTest {
         Check.due("24: the reason", 3, desk::refusal);
         desk.set(1, 31);
         Check.due("23: by the setting of now", 100, () -> desk.refund(1));
+        Check.declared(desk, 1, 0, 1000, 1, 0, -1);
+        desk.pass(31);
+        Check.due("23: since its day, not since the first", 100, () -> desk.refund(2));
         desk.set(1, 0);
         Check.declared(desk, 1, 0, 1000, 1, 0, -1);
-        Check.fails("23: lodged before too late", Check.UNSUPPORTED, () -> desk.refund(2));
+        Check.fails("23: lodged before too late", Check.UNSUPPORTED, () -> desk.refund(3));
         Check.due("23: the reason", 1, desk::refusal);
         desk.pass(1);
-        Check.fails("23: with time 0", Check.UNSUPPORTED, () -> desk.refund(2));
+        Check.fails("23: with time 0", Check.UNSUPPORTED, () -> desk.refund(3));
     }
 
     private static void prove() {
@@ -227,6 +236,11 @@ public final class DaysTest {
         Check.due("24: and what it comes from", 0, () -> desk.declaration(1, 13));
         Check.due("24: but not the proof", 2, () -> desk.declaration(1, 4));
         Check.due("24: the units in the quota", 3, () -> desk.quotaTold(0, 7));
+        desk.pass(9);
+        Check.declared(desk, 1, 2, 100, 1, 0, -1);
+        desk.pass(1);
+        desk.rate(0, 79);
+        Check.due("24: one cent", 1, () -> desk.prove(2, 1));
     }
 
     private static void refusal() {

@@ -76,6 +76,16 @@ public final class DeclarationsTest {
         Check.due("17: not all of it", 1, desk::origin);
         desk.set(0, 97);
         Check.due("17: enough of it", 5, desk::origin);
+        desk.set(0, 50);
+        desk.forget();
+        desk.part(2, 499);
+        desk.part(1, 251);
+        desk.part(4, 250);
+        Check.due("17: 49.9 percent are less than 50", 4, desk::origin);
+        desk.forget();
+        desk.part(3, 1);
+        desk.part(5, 1);
+        Check.due("17: one cent of two", 3, desk::origin);
     }
 
     private static void declare() {
@@ -98,6 +108,9 @@ public final class DeclarationsTest {
         Check.due("18: no parts afterwards", 0, () -> desk.account(11));
         desk.heading(1, 1);
         Check.due("18: its heading may get headings later", 1, () -> desk.declaration(0, 0));
+        desk.part(1, 5);
+        Check.fails("18: then it is no end", Check.STATE, () -> desk.declare(1, 1, 0, -1));
+        desk.forget();
         for (int made = 1; made < 30; made++) {
             int number = made;
             Check.due("18: number", number, () -> Check.declared(desk, 3, 0, 7, 999, 2, 0));

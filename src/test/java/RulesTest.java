@@ -49,6 +49,10 @@ public final class RulesTest {
         Check.due("7: first one", 1, () -> desk.drop(0));
         Check.due("7: moved down again", 0, () -> desk.missed(0, 2, 1, 0));
         Check.due("7: number of the next", 1, () -> desk.prefer(0, 3, 1, 0));
+        desk.prefer(1, 4, 2, 0);
+        desk.drop(1);
+        Check.due("7: its heading moves down with it", 2, () -> desk.rateOf(1, 4, 1, 0));
+        Check.due("7: it holds nowhere else", 500, () -> desk.rateOf(2, 4, 1, 0));
     }
 
     private static void suspend() {
@@ -171,6 +175,13 @@ public final class RulesTest {
         Check.due("12: limit 0", 300, () -> desk.rateOf(1, 1, 1, 2));
         desk.rate(1, 5);
         Check.due("12: least is the heading's", 5, () -> desk.rateOf(1, 1, 1, 0));
+        CustomsDesk deep = Check.smallDesk();
+        deep.rate(0, 400);
+        deep.heading(1, 1);
+        deep.heading(4, 1);
+        deep.prefer(0, 6, 3, 0);
+        Check.due("12: a preference three levels above", 3, () -> deep.rateOf(5, 6, 1, 0));
+        Check.due("12: the rate of three levels above", 400, () -> deep.rateOf(5, 5, 1, 0));
         wrongGoods("12", (h, c, v, p) -> desk.rateOf(h, c, v, p));
     }
 
