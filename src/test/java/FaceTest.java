@@ -9,10 +9,14 @@ import java.util.TreeSet;
 import java.util.regex.Matcher;
 import java.util.regex.Pattern;
 
-/** The public face, as the document writes it, and what LANGUAGE.md rules out and can be seen in the text. */
+/**
+ * The public face, as the document writes it, what LANGUAGE.md rules out and can be seen in the text, and whether each
+ * promise has tests of its boundaries.
+ */
 public final class FaceTest {
     private static final Path DOCUMENT = Path.of("../shared/DOC.md");
     private static final Path SOURCE = Path.of("src/main/java/CustomsDesk.java");
+    private static final Path TESTS = Path.of("src/test/java");
 
     public static void main(String[] args) throws Exception {
         Check.due("the class is public and final", Modifier.PUBLIC | Modifier.FINAL, CustomsDesk.class::getModifiers);
@@ -24,7 +28,25 @@ public final class FaceTest {
         Check.due("private methods with names of public ones", new TreeSet<String>(), FaceTest::sharedNames);
         Check.due("words that are ruled out", new TreeSet<String>(), () -> ruledOut(read(SOURCE)));
         Check.due("methods that are too long", new TreeSet<String>(), () -> longMethods(read(SOURCE)));
+        Check.due("promises without a test of their boundaries", new TreeSet<Integer>(), FaceTest::untested);
         Check.end();
+    }
+
+    private static Set<Integer> untested() {
+        Set<Integer> promises = new TreeSet<>();
+        Matcher promise = Pattern.compile("## Promise (\\d+):").matcher(read(DOCUMENT));
+        while (promise.find()) {
+            promises.add(Integer.valueOf(promise.group(1)));
+        }
+        for (java.io.File file : TESTS.toFile().listFiles()) {
+            if (file.getName().endsWith("BoundariesTest.java")) {
+                Matcher test = Pattern.compile("static void promise(\\d+)_\\w+\\(\\)").matcher(read(file.toPath()));
+                while (test.find()) {
+                    promises.remove(Integer.valueOf(test.group(1)));
+                }
+            }
+        }
+        return promises;
     }
 
     private static String read(Path path) {

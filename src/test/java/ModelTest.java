@@ -4,9 +4,9 @@ import java.util.Random;
 import java.util.regex.Matcher;
 import java.util.regex.Pattern;
 
-/** Long runs of calls by a fixed seed, compared with a second desk that is written in another way. */
+/** Runs of 512 calls by a fixed seed, compared with a second desk that is written in another way. */
 public final class ModelTest {
-    private static final int RUNS = 1500;
+    private static final int RUNS = 6000;
     private static final int CALLS = 512;
 
     public static void main(String[] args) {
@@ -21,6 +21,7 @@ public final class ModelTest {
         private final Random random;
         private final CustomsDesk desk = new CustomsDesk();
         private final Model model = new Model();
+        private int used = 0;
 
         Run(int number) {
             this.number = number;
@@ -28,7 +29,7 @@ public final class ModelTest {
         }
 
         void go() {
-            for (int call = 0; call < CALLS; call++) {
+            while (used < CALLS) {
                 one();
             }
         }
@@ -69,7 +70,12 @@ public final class ModelTest {
             return index(model.now.headings.size());
         }
 
+        /** A later call than the 512th may answer anything. */
         private void same(String call, Check.Call asked, Check.Call due) {
+            if (used >= CALLS) {
+                return;
+            }
+            used++;
             Object want = Check.answer(due);
             Check.due("run " + number + ": " + call, want, asked);
         }

@@ -65,44 +65,44 @@ public final class TextsTest {
     }
 
     private static void errors() {
+        error("", 0);
+        error("0", 0);
+        error(";", 0);
+        error("x1@0:1", 0);
+        error("1", 1);
+        error("10x1@0:1", 1);
+        error("11112x1@0:1", 4);
+        error("1X1@0:1", 1);
+        error("1x", 2);
+        error("1x0@0:1", 2);
+        error("1x@0:1", 2);
+        error("1x123456@0:1", 7);
+        error("1x12345", 7);
+        error("1x1:", 3);
+        error("1x1@", 4);
+        error("1x1@a:1", 4);
+        error("1x1@01:1", 5);
+        error("1x1@0", 5);
+        error("1x1@0:", 6);
+        error("1x1@0:0", 6);
+        error("1x1@0:123456", 11);
+        error("1x1@0:1+", 8);
+        error("1x1@0:1++", 8);
+        error("1x1@0:1+1:1+2:1+3:1+4:1", 19);
+        error("1x1@0:1!", 8);
+        error("1x1@0:1!a", 8);
+        error("1x1@0:1!11", 9);
+        error("1x1@0:1!1!1", 9);
+        error("1x1@0:1!1+0:1", 9);
+        error("1x1@0:1#", 8);
+        error("1x1@0:1#0!1", 9);
+        error("1x1@0:1#00", 9);
+        error("1x1@0:1!1#0#0", 11);
+        error("1x1@0:1;", 8);
+        error("1x1@0:1;;", 8);
+        error("1x1@0:1;2x1@0:1!1;2", 19);
+        error("9999x99999@9:99999+9:99999+9:99999+9:99999!9#9~", 46);
         CustomsDesk desk = Check.smallDesk();
-        error(desk, "", 0);
-        error(desk, "0", 0);
-        error(desk, ";", 0);
-        error(desk, "x1@0:1", 0);
-        error(desk, "1", 1);
-        error(desk, "10x1@0:1", 1);
-        error(desk, "11112x1@0:1", 4);
-        error(desk, "1X1@0:1", 1);
-        error(desk, "1x", 2);
-        error(desk, "1x0@0:1", 2);
-        error(desk, "1x@0:1", 2);
-        error(desk, "1x123456@0:1", 7);
-        error(desk, "1x12345", 7);
-        error(desk, "1x1:", 3);
-        error(desk, "1x1@", 4);
-        error(desk, "1x1@a:1", 4);
-        error(desk, "1x1@01:1", 5);
-        error(desk, "1x1@0", 5);
-        error(desk, "1x1@0:", 6);
-        error(desk, "1x1@0:0", 6);
-        error(desk, "1x1@0:123456", 11);
-        error(desk, "1x1@0:1+", 8);
-        error(desk, "1x1@0:1++", 8);
-        error(desk, "1x1@0:1+1:1+2:1+3:1+4:1", 19);
-        error(desk, "1x1@0:1!", 8);
-        error(desk, "1x1@0:1!a", 8);
-        error(desk, "1x1@0:1!11", 9);
-        error(desk, "1x1@0:1!1!1", 9);
-        error(desk, "1x1@0:1!1+0:1", 9);
-        error(desk, "1x1@0:1#", 8);
-        error(desk, "1x1@0:1#0!1", 9);
-        error(desk, "1x1@0:1#00", 9);
-        error(desk, "1x1@0:1!1#0#0", 11);
-        error(desk, "1x1@0:1;", 8);
-        error(desk, "1x1@0:1;;", 8);
-        error(desk, "1x1@0:1;2x1@0:1!1;2", 19);
-        error(desk, "9999x99999@9:99999+9:99999+9:99999+9:99999!9#9~", 46);
         Check.fails("33: an error at 46", Check.ARGUMENT,
                 () -> Check.lodged(desk, "9999x99999@9:99999+9:99999+9:99999+9:99999!9#9~"));
         Check.due("34: nothing was declared", 0, () -> desk.account(4));
@@ -116,7 +116,8 @@ public final class TextsTest {
         Check.due("34: restore leaves it", 46, desk::errorPosition);
     }
 
-    private static void error(CustomsDesk desk, String text, int position) {
+    private static void error(String text, int position) {
+        CustomsDesk desk = Check.smallDesk();
         Check.fails("33: " + text, Check.ARGUMENT, () -> Check.lodged(desk, text));
         Check.due("34: " + text, position, desk::errorPosition);
         Check.due("33: the buffer is empty after " + text, 1, () -> desk.append('1'));
